@@ -16,6 +16,8 @@ public final class PromisesTest {
 
     private static final Check CHECK = new Check("the promises");
     private static HiddenWords x;
+    /** What stands in the buffer behind a text, until it is truncated. */
+    private static String pad = "\0";
 
     private PromisesTest() {
     }
@@ -51,7 +53,10 @@ public final class PromisesTest {
         promises50And51OutChanges();
         promises52And53Report();
         promise54Undo();
+        promise54UndoEach();
         promises55And56Save();
+        theNextText();
+        theLargestText();
         CHECK.end();
     }
 
@@ -60,7 +65,7 @@ public final class PromisesTest {
     }
 
     private static void feed(String text) {
-        String whole = text + "\0".repeat(19);
+        String whole = text + pad.repeat(19);
         x.truncate(0);
         for (int k = 0; k < text.length(); k += 20) {
             x.feed(four(whole, k), four(whole, k + 4), four(whole, k + 8), four(whole, k + 12), four(whole, k + 16));
@@ -222,6 +227,14 @@ public final class PromisesTest {
     }
 
     private static void wrongText(String text, int code, int position) {
+        for (String behind : new String[] {"\0", " ", "a", "7", ";", ")"}) {
+            pad = behind;
+            wrongPaddedText(text, code, position);
+        }
+        pad = "\0";
+    }
+
+    private static void wrongPaddedText(String text, int code, int position) {
         read(XYZ);
         feed(text);
         due("readText: " + text, () -> x.readText(), ARGUMENT);
@@ -279,6 +292,10 @@ public final class PromisesTest {
         wrongText("changes 1;changes 9;", 4, 10);
         wrongText("row a ab;letters 4;", 4, 9);
         wrongText("row a ab;letters $", 4, 9);
+        wrongText("row a ab;" + " ".repeat(588) + "row", 1, 600);
+        wrongText("row a ab;" + " ".repeat(588) + "ro" + "\n", 1, 597);
+        wrongText("row a ab;" + " ".repeat(582) + "changes 3", 1, 600);
+        wrongText("row a ab;" + " ".repeat(590) + ")", 1, 599);
         StringBuilder rows = new StringBuilder();
         for (char c = 'a'; c <= 'j'; c++) {
             rows.append("row ").append(c).append(" aa;");
@@ -315,6 +332,20 @@ public final class PromisesTest {
         due("took the best", () -> x.taken(1), AAC);
         due("the buffer is empty", () -> x.feed(0, 0, 0, 0, 0), 20);
         CHECK.due("nothing", run(" \n "), "0");
+        CHECK.due("600 bytes", run("repeat 2(changes 2;);" + "\n".repeat(569) + "changes 3;"), "3");
+
+        read(XYZ);
+        x.best(0);
+        CHECK.due("best is another one behind each command", run("changes 0;best;best;"), "3");
+        due("the first best", () -> x.taken(0), ABC);
+        due("the second best", () -> x.taken(1), AAC);
+        due("the best one behind the script", () -> x.best(0), 0);
+        read(XYZ);
+        x.best(0);
+        CHECK.due("take, then best", run("changes 0;take aac;best;"), "3");
+        due("the best behind take", () -> x.taken(1), ABC);
+        CHECK.due("best behind out", run("in z;") + run("out z;changes 3;best;in z;"), "04");
+        due("the best behind out", () -> x.taken(2), 0);
 
         read(XYZ);
         CHECK.due("repeat", run("repeat 3 ( choose x 0; clear x; ) ; changes 2;"), "7");
@@ -330,6 +361,7 @@ public final class PromisesTest {
         due("the commands before stay", () -> x.setting(3), 2);
         CHECK.due("none chosen", run("clear x;changes 3;"), "0");
         CHECK.due("left out", run("out x;better x;changes 3;"), "1");
+        CHECK.due("the greatest numbers", run("changes 999;") + run("choose x 999;") + run("improve 999;"), "000");
         CHECK.due("improve 0", run("improve 0;changes 3;"), "0");
         CHECK.due("improve 51", run("improve 50;improve 51;changes 3;"), "1");
         CHECK.due("out already", run("out x;changes 3;"), "0");
@@ -352,6 +384,14 @@ public final class PromisesTest {
     }
 
     private static void wrongScript(String script, int code, int position) {
+        for (String behind : new String[] {"\0", " ", "a", "7", ";", ")"}) {
+            pad = behind;
+            wrongPaddedScript(script, code, position);
+        }
+        pad = "\0";
+    }
+
+    private static void wrongPaddedScript(String script, int code, int position) {
         read(XYZ);
         x.save();
         feed(script);
@@ -496,6 +536,8 @@ public final class PromisesTest {
         due("spread", () -> x.spread(ABC), 3);
         x.setOut(3, true);
         due("spread of three rows", () -> x.spread(ABC), 1);
+        due("spread, most in the first row", () -> x.spread(18 + 6 + 2), 2);
+        due("spread, most in the last row", () -> x.spread(BCA), 3);
         due("spread of aaa", () -> x.spread(0), 2);
         due("distance of a row that is left out", () -> x.distance(3, 0), NONE);
         due("score of three rows", () -> x.score(ABC), 1);
@@ -587,6 +629,12 @@ public final class PromisesTest {
         due("timesOf one", () -> x.timesOf(AAC), 1);
         due("timesOf none", () -> x.timesOf(0), 0);
         due("commonest", () -> x.commonest(), ABC);
+        x.shared(2, 2);
+        due("timesOf behind shared", () -> x.timesOf(CAB), 2);
+        x.shared(2, 2);
+        due("commonest behind shared", () -> x.commonest(), ABC);
+        x.shared(2, 2);
+        due("kinds behind shared", () -> x.kinds(), 4);
         fails("timesOf 27", () -> x.timesOf(27), INDEX);
         fails("timesOf -1", () -> x.timesOf(-1), INDEX);
         x.setChanges(0);
@@ -752,6 +800,10 @@ public final class PromisesTest {
                 due("count " + i + " " + k, () -> x.count(i, k), counts[i][k]);
             }
         }
+        x.weight(0, 0);
+        due("count behind weight", () -> x.count(0, 0), 3);
+        x.weight(0, 0);
+        due("common behind weight", () -> x.common(), ABC);
         for (int wrong : new int[] {3, -1, LOW, HIGH}) {
             fails("count at " + wrong, () -> x.count(wrong, 0), INDEX);
             fails("count of " + wrong, () -> x.count(0, wrong), INDEX);
@@ -784,6 +836,10 @@ public final class PromisesTest {
         }
         due("tryFrom x", () -> x.tryFrom(0, 1), 8);
         due("tryFrom z", () -> x.tryFrom(2, 0), 8);
+        x.choose(0, 1);
+        due("tryFrom z, whatever x chose", () -> x.tryFrom(2, 0), 8);
+        due("tryFrom y 0, whatever x chose", () -> x.tryFrom(1, 0), 6);
+        x.clear(0);
         due("tryFrom -1", () -> x.tryFrom(0, -1), NONE);
         due("tryFrom the greatest", () -> x.tryFrom(0, HIGH), NONE);
         due("tryFrom the least", () -> x.tryFrom(0, LOW), NONE);
@@ -819,6 +875,8 @@ public final class PromisesTest {
         x.setOut(1, true);
         x.setOut(2, true);
         due("mean distance of none", () -> x.meanDistance(), 0.0);
+        read("length 4;row a abc;");
+        due("mean distance without places", () -> x.meanDistance(), 4.0);
     }
 
     private static void promise41ImprovesToEnd() {
@@ -930,6 +988,13 @@ public final class PromisesTest {
         fails("take 27 as a seventh", () -> x.take(27), INDEX);
 
         read(XYZ);
+        x.setChanges(0);
+        due("takeBest", () -> x.takeBest(), ABC);
+        due("takeBest again", () -> x.takeBest(), AAC);
+        x.undo();
+        due("takeBest behind undo", () -> x.takeBest(), AAC);
+
+        read(XYZ);
         x.choose(0, 2);
         x.setOut(1, true);
         due("take with changes", () -> x.take(AAC), 2);
@@ -1037,6 +1102,28 @@ public final class PromisesTest {
         due("the buffer stays", () -> x.truncate(3), 3);
     }
 
+    private static void promise54UndoEach() {
+        read("changes 0;" + XYZ);
+        x.choose(1, 0);
+        Check.Call[] calls = {() -> x.choose(0, 1), () -> x.clear(1), () -> x.better(1), () -> x.improve(9),
+            () -> x.take(AAC), () -> x.setOut(1, true), () -> x.setChanges(3), () -> x.takeBest(), () -> run("out z;")};
+        for (int k = 0; k < calls.length; k++) {
+            x.save();
+            x.restore();
+            String before = seen() + x.best(0) + x.best(1) + x.second(0);
+            calls[k].answer();
+            due("undo of call " + k, () -> x.undo(), 0);
+            CHECK.due("as before call " + k, seen() + x.best(0) + x.best(1) + x.second(0), before);
+        }
+        x.setChanges(0);
+        due("a change that changes nothing can be undone", () -> x.undo(), 0);
+        x.report();
+        x.save();
+        x.best(0);
+        x.undo();
+        due("calls that change nothing cannot", () -> x.undo(), NONE);
+    }
+
     private static void promises55And56Save() {
         read(XYZ);
         due("restore nothing", () -> x.restore(), STATE);
@@ -1072,5 +1159,65 @@ public final class PromisesTest {
         due("restore the other", () -> x.restore(), 2);
         due("the other's changes", () -> x.setting(3), 1);
         CHECK.due("the other's rows", reported(), "a ab\nb ab\n");
+    }
+
+    /** Nothing of an earlier text is left. */
+    private static void theNextText() {
+        read("letters 2;length 2;changes 3;row a aab;row b bab;row c aba;");
+        due("differ in two letters of two", () -> x.differ(0, 3), 2);
+        due("differ in one of two", () -> x.differ(2, 3), 1);
+        x.choose(2, 0);
+        x.take(1);
+        x.setOut(0, true);
+        due("asked", () -> x.best(2) > 0, true);
+        feed("row a aab;");
+        due("the next text", () -> x.readText(), 1);
+        int[] settings = {1, 4, 3, 1, 64, 1, 0, 0, 0, 0};
+        for (int what = 0; what < settings.length; what++) {
+            int w = what;
+            due("next text: setting " + w, () -> x.setting(w), settings[w]);
+        }
+        due("next text: taken", () -> x.taken(0), NONE);
+        due("next text: best", () -> x.best(0), 1);
+        due("next text: score", () -> x.best(1), 0);
+        due("next text: asked", () -> x.best(2), 12);
+        due("next text: cut", () -> x.best(3), 8);
+        fails("next text: letter", () -> x.letter(1, 0), INDEX);
+        fails("next text: row", () -> x.row(1, 0), INDEX);
+        fails("next text: wordAt", () -> x.wordAt(1, 0), INDEX);
+        fails("next text: closest", () -> x.closest(1, 0), INDEX);
+        fails("next text: setOut", () -> x.setOut(1, true), INDEX);
+    }
+
+    private static void theLargestText() {
+        StringBuilder text = new StringBuilder("length 6;");
+        for (char c = 'a'; c <= 'j'; c++) {
+            text.append("row ").append(c).append(' ').append("a".repeat(30)).append(";");
+        }
+        read(text.toString());
+        int bbbbbb = 1365;
+        due("asked of the largest", () -> x.best(2), 24);
+        due("cut of the largest", () -> x.best(3), 18);
+        due("score of the largest", () -> x.score(bbbbbb), 60);
+        due("places of the largest", () -> x.setting(5), 250);
+        due("times of the largest", () -> x.timesOf(0), 250);
+        due("kinds of the largest", () -> x.kinds(), 1);
+        due("the first of the largest", () -> x.ranked(0), 0);
+        due("the first with the greatest score", () -> x.ranked(4096 - 729), bbbbbb);
+        due("its rank", () -> x.rankOf(bbbbbb), 4096 - 729);
+        due("the last of the largest", () -> x.ranked(4095), 4095);
+        due("its rank, too", () -> x.rankOf(4095), 4095);
+        due("behind the last", () -> x.ranked(4096), NONE);
+        due("improve the largest", () -> x.improve(50), 2);
+        due("the greatest weight", () -> x.weight(9, 24), 1000000);
+        due("the greatest agreement", () -> x.agreement(), 60);
+        due("having of the largest", () -> x.having(1), 1023);
+        due("hits of the largest", () -> x.hits(1), 250);
+        due("the last hit's row", () -> x.hit(1, 249, 0), 9);
+        due("the last hit's start", () -> x.hit(1, 249, 1), 24);
+        due("take of the largest", () -> x.takeBest(), 0);
+        due("cover the last letters", () -> run("best;best;best;best;"), "4");
+        due("all are covered", () -> x.row(9, 4), (1 << 30) - 1);
+        due("best without places", () -> x.best(1), 60);
     }
 }

@@ -12,10 +12,11 @@ public final class RulesTest {
     private static final int MOST_FIELDS = 20;
     private static final int MOST_PARAMETERS = 7;
 
-    private static final List<String> NEVER = List.of("->", "::", "\\bimport\\b", "\\bpackage\\b", "\\bfinally\\b", "\\btry\\b",
-            "\\bcatch\\b", "\\bsynchronized\\b", "\\bassert\\b", "\\bvar\\b", "\\bprotected\\b", "\\bvolatile\\b", "\\bnative\\b",
-            "static\\s*\\{", "\\bSystem\\.(?!arraycopy)", "Exact\\b", "\\bRandom\\b", "\\bThread\\b", "\\bequals\\(", "\\bhashCode\\b",
-            "\\btoString\\b", "\"\\s*\\+", "\\+\\s*\"", "\\binstanceof\\b", "\\bgetMessage\\b");
+    private static final List<String> NEVER = List.of("->", "::", "\\bimport\\b", "\\bpackage\\b", "\\bfinally\\b",
+            "\\btry\\b", "\\bcatch\\b", "\\bsynchronized\\b", "\\bassert\\b", "\\bvar\\b", "\\bprotected\\b",
+            "\\bvolatile\\b", "\\bnative\\b", "static\\s*\\{", "\\bSystem\\.(?!arraycopy)", "Exact\\b", "\\bRandom\\b",
+            "\\bThread\\b", "\\bequals\\(", "\\bhashCode\\b", "\\btoString\\b", "\"\\s*\\+", "\\+\\s*\"",
+            "\\binstanceof\\b", "\\bgetMessage\\b");
 
     private static final List<String> THROWN = List.of("IllegalStateException", "IllegalArgumentException",
             "IndexOutOfBoundsException");
