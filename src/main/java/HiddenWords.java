@@ -688,7 +688,8 @@ public final class HiddenWords {
         if (depth > Script.MOST_DEPTH) {
             return false;
         }
-        for (int at = from; at < end; at = script.behind(at)) {
+        int at = from;
+        for (int steps = 0; steps < Script.MOST_COMMANDS && at < end; steps++) {
             if (script.kinds[at] == Script.REPEAT) {
                 for (int k = 0; k < script.numbers[at]; k++) {
                     if (!runCommands(at + 1, script.behind(at), depth + 1)) {
@@ -701,6 +702,7 @@ public final class HiddenWords {
                 }
                 commandsDone++;
             }
+            at = script.behind(at);
         }
         return true;
     }
@@ -1190,7 +1192,8 @@ public final class HiddenWords {
 
         /** Lets every word be one farther than those that differ from it only by the letter that counts 'step'. */
         private void changeOneLetter(int step) {
-            for (int high = 0; high < words; high += step * letters) {
+            int block = Math.max(1, step * letters);
+            for (int high = 0; high < words; high += block) {
                 for (int low = high; low < high + step; low++) {
                     int farthest = nearestOf(low, step) + 1;
                     for (int x = 0; x < letters; x++) {
@@ -1740,8 +1743,8 @@ public final class HiddenWords {
         static final int CHANGES = 9;
         static final int REPEAT = 10;
         static final int MOST_DEPTH = 2;
+        static final int MOST_COMMANDS = 30;
 
-        private static final int MOST_COMMANDS = 30;
         private static final int GREATEST_NUMBER = 999;
         private static final int MOST_REPEATS = 20;
 

@@ -162,6 +162,7 @@ final class ChangeBoundaries extends Boundaries {
         text(XYZ, y -> y.setChanges(0), y -> y.choose(0, 2), y -> y.choose(2, 0));
         String before = seen(x) + x.second(0) + x.ranked(3) + x.common();
         x.take(CAB);
+        x.second(0);
         x.report();
         x.save();
         x.feed(0x24202020, 0, 0, 0, 0);
@@ -687,13 +688,17 @@ final class ChangeBoundaries extends Boundaries {
         read(x, XYZ);
         due("readText leaves it", y -> y.restore(), 0);
         due("no rows", y -> y.setting(0), 0);
-        text(XYZ, y -> y.choose(1, 1), y -> y.save());
+        text(XYZ, y -> y.setChanges(0), y -> y.take(AAC), y -> y.choose(1, 1), y -> y.save());
         for (int k = 0; k < 3; k++) {
             due("restore " + k, y -> y.restore(), 3);
-            due("as it was saved " + k, y -> reported(y), "x abcab\ny bCAB" + "c\nz aac\n");
-            x.take(AAC);
+            due("as it was saved " + k, y -> reported(y), "x abcab\ny bCABc\nz ***\n");
+            due("what was taken " + k, y -> y.taken(0), AAC);
+            x.setChanges(3);
+            x.take(0);
             x.setOut(0, true);
-            read(x, "row q abcd;");
+            read(x, "changes 3;row q abcd;");
+            x.take(60);
+            due("what is taken of another text " + k, y -> y.taken(0), 60);
         }
     }
 }

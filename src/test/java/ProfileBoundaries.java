@@ -189,6 +189,15 @@ final class ProfileBoundaries extends Boundaries {
                 + " int).");
         text(XYZ);
         dueEach("of y", -1, i -> y -> y.tryFrom(1, i), NONE, 6, 7, 8, NONE);
+        x.choose(0, 1);
+        x.choose(2, 0);
+        dueEach("of y, whatever is chosen", -1, i -> y -> y.tryFrom(1, i), NONE, 6, 7, 8, NONE);
+        x.undo();
+        x.undo();
+        x.setOut(2, true);
+        due("of x, without z", y -> y.tryFrom(0, 1), 6);
+        x.undo();
+        due("of x, with z", y -> y.tryFrom(0, 1), 8);
         for (int start : new int[] {LOW, LOW + 1, -30, 3, 29, 30, 31, 32, HIGH - 2, HIGH}) {
             due("start " + start, y -> y.tryFrom(0, start), NONE);
         }
@@ -202,6 +211,9 @@ final class ProfileBoundaries extends Boundaries {
         due("covered", y -> y.tryFrom(2, 0), NONE);
         text("letters 2;length 2;row a ab;");
         due("the only row", y -> y.tryFrom(0, 0), 2);
+        // If b and c kept bb, a would get it, too, and only d would have aa.
+        text("letters 2;length 2;row a aabb;row b aabb;row c aabb;row d aa;", y -> y.choose(1, 2), y -> y.choose(2, 2));
+        due("the only one that is chosen", y -> y.tryFrom(0, 0), 8);
         text("length 6;" + tenRows("a".repeat(30)));
         due("the greatest", y -> y.tryFrom(9, 24), 60);
         text(LONG);

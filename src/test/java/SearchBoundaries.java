@@ -60,6 +60,8 @@ final class SearchBoundaries extends Boundaries {
         found("letters 2;length 2;row a aa;row b bb;", 0, 2, 6, 3);
         // ab with 1, one less than aa, is not cut; ba with just 1 is; bb with 0 is not.
         found("letters 2;length 2;row a bb;", 3, 0, 6, 1);
+        // b with 2, one more than aa, is cut.
+        found("letters 2;length 2;row a aa;row b ab;", 0, 1, 4, 2);
         // Nothing was found ahead of aaa, so that it is not cut; of the others only whole words have as much.
         text("letters 2;length 3;row a ab;row b ba;");
         dueEach("without places, best", 0, what -> y -> y.best(what), 0, 6, 14, 7);
@@ -84,6 +86,18 @@ final class SearchBoundaries extends Boundaries {
         x.setOut(2, false);
         // a, aa, aaa 1, aab cut, aac 0, then ab, ac, b and c are cut.
         dueEach("z alone, best", 0, what -> y -> y.best(what), AAC, 0, 9, 5);
+        text(XYZ);
+        due("ahead of all changes", y -> y.best(0), ABC);
+        Step[] changes = {y -> y.setOut(2, true), y -> y.undo(), y -> y.setOut(0, true), y -> y.take(AAC), y -> y.undo(),
+            y -> y.save(), y -> y.setOut(1, true), y -> y.restore(), y -> y.setChanges(0),
+            y -> run(y, "take aac;"), y -> y.undo(), y -> run(y, "best;out y;"), y -> read(y, "")};
+        int[] best = {ABC, ABC, AAC, 0, AAC, AAC, AAC, AAC, AAC, ABC, AAC, 0, 0};
+        int[] scores = {0, 1, 1, 6, 1, 1, 0, 1, 1, 3, 1, 3, 0};
+        for (int k = 0; k < changes.length; k++) {
+            changes[k].on(x);
+            due("behind change " + k, y -> y.best(0), best[k]);
+            due("its score behind change " + k, y -> y.best(1), scores[k]);
+        }
         text("length 6;row a dddddd;");
         due("the last word", y -> y.best(0), 4095);
         due("its score", y -> y.best(1), 0);
@@ -142,6 +156,12 @@ final class SearchBoundaries extends Boundaries {
         dueEach("no row has any", 0, what -> y -> y.mostHad(what), 0, 0);
         x.setChanges(3);
         dueEach("all have all", 0, what -> y -> y.mostHad(what), 0, 1);
+        text("letters 2;length 2;changes 0;row a aa;row b ba;row c bb;row d bb;");
+        dueEach("no changes", 0, what -> y -> y.mostHad(what), 3, 2);
+        x.setChanges(1);
+        dueEach("one change", 0, what -> y -> y.mostHad(what), 2, 4);
+        x.undo();
+        dueEach("no changes again", 0, what -> y -> y.mostHad(what), 3, 2);
         text("changes 0;" + tenRows("ddd"));
         dueEach("ten rows", 0, what -> y -> y.mostHad(what), 63, 10);
     }
@@ -250,9 +270,13 @@ final class SearchBoundaries extends Boundaries {
         due("the best one stays", y -> y.best(0), 3);
         due("nothing can be undone", y -> y.undo(), NONE);
         text("letters 2;length 2;changes 0;row a aa;row b bb;");
+        dueEach("aa first, then bb", 0, what -> y -> y.second(what), 3, 2);
         x.setOut(0, true);
+        dueEach("bb alone, then none", 0, what -> y -> y.second(what), 0, 2);
         x.setOut(1, true);
         dueEach("all rows are left out", 0, what -> y -> y.second(what), NONE, NONE);
+        x.undo();
+        dueEach("one again", 0, what -> y -> y.second(what), 0, 2);
     }
 
     void promise32OutOfRange() {

@@ -99,6 +99,8 @@ final class TextBoundaries extends Boundaries {
         wrong("5;", 1, 0);
         wrong("rows a ab;", 1, 0);
         wrong("ro a ab;", 1, 0);
+        wrong("bow a ab;", 1, 0);
+        wrong("rob a ab;", 1, 0);
         wrong("letter 2;", 1, 0);
         wrong("lengths 2;", 1, 0);
         wrong("change 2;", 1, 0);
@@ -495,6 +497,11 @@ final class TextBoundaries extends Boundaries {
         begin();
         read(x, next);
         that("as in a new object", got.equals(seen(x)));
+
+        text("letters 2;length 2;changes 3;row a ababab;row b abab;row c ab;", y -> y.setOut(1, true), y -> y.take(1),
+                y -> y.choose(0, 2), y -> y.setOut(2, true), y -> y.second(0), y -> y.tryFrom(0, 2));
+        read(x, next);
+        that("as in a new object, whatever was tried", got.equals(seen(x)));
 
         text(XYZ, y -> y.choose(0, 1), y -> y.save(), y -> y.report(), y -> read(y, "letters 2;length 2;row q ab;"));
         due("the report stays", y -> latestReport(y), "x aBCAb\ny bcabc\nz aac\n");

@@ -440,6 +440,10 @@ final class WordBoundaries extends Boundaries {
         x.setOut(2, true);
         due("a row without a place has none", y -> y.hits(0), 0);
         refusedWords("hits", 8, w -> y -> y.hits(w));
+        text("length 2;changes 2;" + tenRows("a".repeat(30)));
+        due("all places of ten rows", y -> y.hits(15), 290);
+        read(x, "length 2;changes 2;row a aaa;");
+        due("none of the text before", y -> y.hits(15), 2);
     }
 
     void promise21Hit() {
