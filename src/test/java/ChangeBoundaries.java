@@ -437,6 +437,25 @@ final class ChangeBoundaries extends Boundaries {
         due("without places", y -> y.improve(50), 1);
     }
 
+    void promise45FiftyTimes() {
+        promise(45, "Returns how often it improved (also the time that changed nothing), at most so often.");
+        text(FAR, y -> y.choose(0, FAR_START));
+        due("a way that goes on", y -> y.improve(50), 50);
+        due("behind 50 times", y -> y.agreement(), FAR_AGREEMENTS[1]);
+        due("the rest, and the time that changes nothing", y -> y.improve(50), FAR_TIMES - 50 + 1);
+        due("at the end", y -> y.improve(50), 1);
+        text(FAR, y -> y.choose(0, FAR_START), y -> y.improve(FAR_TIMES - 50));
+        due("50 times that change something", y -> y.improve(50), 50);
+        due("the time that changes nothing is another one", y -> y.improvesToEnd(0), 0);
+        text(FAR, y -> y.choose(0, FAR_START), y -> y.improve(FAR_TIMES - 49));
+        due("49 times that change something, and one that does not", y -> y.improve(50), 50);
+        text(FAR, y -> y.choose(0, FAR_START), y -> y.improve(FAR_TIMES - 48));
+        due("48 times that change something, and one that does not", y -> y.improve(50), 49);
+        text(FAR);
+        due("the same in a script", y -> run(y, "choose a 16;improve 50;"), 2);
+        due("behind 50 times in a script", y -> y.agreement(), FAR_AGREEMENTS[1]);
+    }
+
     void promise45OutOfRange() {
         promise(45, "Throws `IllegalArgumentException` if most is out of range");
         text(XYZ, y -> y.choose(0, 1));

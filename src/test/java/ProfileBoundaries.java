@@ -225,6 +225,19 @@ final class ProfileBoundaries extends Boundaries {
         due("improved to the end", y -> y.agreement(), LONG_AGREEMENT);
     }
 
+    void promise37FiftyTimes() {
+        promise(37, "until improving changes nothing, at most 50 times");
+        text(FAR);
+        due("a way that goes on", y -> y.tryFrom(0, FAR_START), FAR_AGREEMENTS[1]);
+        x.choose(0, FAR_START);
+        due("improve 49 times", y -> y.improve(49), 49);
+        due("behind 49 times", y -> y.agreement(), FAR_AGREEMENTS[0]);
+        x.improve(1);
+        due("behind 50 times", y -> y.agreement(), FAR_AGREEMENTS[1]);
+        x.improve(1);
+        due("behind 51 times", y -> y.agreement(), FAR_AGREEMENTS[2]);
+    }
+
     void promise38BestStart() {
         promise(38, "Returns the start of the place of a row with the greatest tryFrom(), the least one of several; NONE"
                 + " without places.");
@@ -308,6 +321,19 @@ final class ProfileBoundaries extends Boundaries {
             due("of the long way, limit " + n, y -> y.improvesToEnd(n), n < LONG_TIMES ? NONE : LONG_TIMES);
         }
         due("of the long way, limit 50", y -> y.improvesToEnd(50), LONG_TIMES);
+    }
+
+    void promise41FiftyTimes() {
+        promise(41, "up to limit, behind which improving once more would change nothing; NONE if there is none such.");
+        text(FAR, y -> y.choose(0, FAR_START), y -> y.improve(FAR_TIMES - 51));
+        due("51 times, limit 50", y -> y.improvesToEnd(50), NONE);
+        x.improve(1);
+        due("50 times, limit 50", y -> y.improvesToEnd(50), 50);
+        due("50 times, limit 49", y -> y.improvesToEnd(49), NONE);
+        x.improve(1);
+        due("49 times, limit 50", y -> y.improvesToEnd(50), 49);
+        due("49 times, limit 49", y -> y.improvesToEnd(49), 49);
+        due("49 times, limit 48", y -> y.improvesToEnd(48), NONE);
     }
 
     void promise41OutOfRange() {
