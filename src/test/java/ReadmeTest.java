@@ -11,7 +11,6 @@ import java.util.List;
 import java.util.regex.Matcher;
 import java.util.regex.Pattern;
 import java.util.stream.Stream;
-import javax.tools.ToolProvider;
 
 /** What README.md says is so: its program compiles as it stands there and prints what its remarks say. */
 public final class ReadmeTest {
@@ -60,8 +59,8 @@ public final class ReadmeTest {
         Path place = Files.createTempDirectory("readme");
         Path source = place.resolve("Example.java");
         Files.writeString(source, program);
-        int answer = ToolProvider.getSystemJavaCompiler().run(null, System.err, System.err, "-Xlint:all", "-Werror",
-                "-cp", System.getProperty("java.class.path"), "-d", place.toString(), source.toString());
+        int answer = new ProcessBuilder("javac", "-Xlint:all", "-Werror", "-cp", System.getProperty("java.class.path"),
+                "-d", place.toString(), source.toString()).inheritIO().start().waitFor();
         check.due("the compiler", answer, 0);
         String output = answer == 0 ? run(check, place) : "";
         for (Path file : filesOf(place)) {
